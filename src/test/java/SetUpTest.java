@@ -86,6 +86,10 @@ public final class SetUpTest {
         checks.due("twins() tells fact 1 by action 7", x.twins(), 1);
         x.action(7, 0, 0, -1);
         checks.due("twins() without sensing", x.twins(), 1);
+        x.effect(7, 3, true, 0, 0);
+        checks.due("behind before the replacement", x.behind(7, 65535), 0xFF00);
+        x.action(7, 0, 0, -1);
+        checks.due("behind, no effect in any state", x.behind(7, 65535), 65535);
         checks.due("clear()", x.clear(), 3);
     }
 
