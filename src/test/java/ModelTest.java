@@ -191,16 +191,8 @@ public final class ModelTest {
     }
 
     private void same(String name, String call, Supplier<Object> got, Supplier<Object> want) {
-        String due = answer(want);
+        String due = Checks.answer(want);
         met.merge(name + " " + due, 1, Integer::sum);
-        checks.due(run + call, answer(got), due);
-    }
-
-    private static String answer(Supplier<Object> call) {
-        try {
-            return String.valueOf(call.get());
-        } catch (RuntimeException thrown) {
-            return thrown.getClass().getSimpleName();
-        }
+        checks.due(run + call, Checks.answer(got), due);
     }
 }
