@@ -163,18 +163,11 @@ public final class CarryingOutEdgesTest {
             HiddenFacts x = planned(4);
             x.hide(0);
             x.goal(0, 0);
-            int bit = k + 1 & -(k + 1);
-            x.action(k, 15, k, Integer.numberOfTrailingZeros(bit));
-            for (int f = 0; f < 4; f++) {
-                x.effect(k, f, (k + 1 >> f & 1) != 0, 0, 0);
-            }
+            Scenes.step(x, k, Integer.numberOfTrailingZeros(k + 1));
             checks.due("execute(), action " + k + " senses what is true", x.execute(), false);
             checks.due("made()", x.made(), k + 1);
             checks.due("the last state", x.trace(k), k + 1);
-            x.action(k, 15, k, 3);
-            for (int f = 0; f < 4; f++) {
-                x.effect(k, f, (k + 1 >> f & 1) != 0, 0, 0);
-            }
+            Scenes.step(x, k, 3);
             checks.due("execute(), action " + k + " senses what is false", x.execute(), true);
             checks.due("made()", x.made(), 4);
         }

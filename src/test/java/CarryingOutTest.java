@@ -29,13 +29,9 @@ public final class CarryingOutTest {
     }
 
     private static String trace(HiddenFacts x) {
-        StringBuilder text = new StringBuilder();
-        for (int k = 0; k < x.made(); k++) {
-            text.append(k == 0 ? "" : " ").append(x.trace(k));
-        }
         checks.dueThrow("trace(made())", INDEX, () -> x.trace(x.made()));
         checks.dueThrow("trace(-1)", INDEX, () -> x.trace(-1));
-        return text.toString();
+        return Checks.trace(x);
     }
 
     private static void hide() {

@@ -20,30 +20,8 @@ public final class PlanNodesTest {
         checks.end();
     }
 
-    /**
-     * Start belief 0 and 1; behind sensing fact 0 (action 1) state 1 needs the actions 2 and 3,
-     * state 0 only action 5: within two the idle action 0 comes first there.
-     */
-    private static HiddenFacts idle() {
-        HiddenFacts x = new HiddenFacts();
-        x.clause(0, 2);
-        x.clause(0, 4);
-        x.clause(0, 8);
-        x.goal(6, 6);
-        x.action(0, 0, 0, -1);
-        x.action(1, 0, 0, 0);
-        x.action(2, 1, 1, -1);
-        x.effect(2, 1, true, 0, 0);
-        x.action(3, 3, 3, -1);
-        x.effect(3, 2, true, 0, 0);
-        x.action(5, 1, 0, -1);
-        x.effect(5, 1, true, 0, 0);
-        x.effect(5, 2, true, 0, 0);
-        return x;
-    }
-
     private static void leastActionNotLeastDepth() {
-        HiddenFacts x = idle();
+        HiddenFacts x = Scenes.idle();
         checks.due("plan(4)", x.plan(4), 3);
         checks.due("nodes()", x.nodes(), 6);
         checks.due("the plan", Checks.plan(x), "1/1/4 0/2/-1 5/3/-1 -1/-1/-1 2/5/-1 3/3/-1");
@@ -125,7 +103,7 @@ public final class PlanNodesTest {
     }
 
     private static void edit() {
-        HiddenFacts x = idle();
+        HiddenFacts x = Scenes.idle();
         x.plan(4);
         checks.due("edit(1, 5)", x.edit(1, 5), 0);
         checks.due("node 1 alone is changed", Checks.plan(x),
@@ -141,7 +119,7 @@ public final class PlanNodesTest {
     }
 
     private static void wrongEdit() {
-        HiddenFacts x = idle();
+        HiddenFacts x = Scenes.idle();
         Class<NoSuchElementException> element = NoSuchElementException.class;
         checks.dueThrow("edit(0, 0) without a plan", INDEX, () -> x.edit(0, 0));
         x.plan(4);
@@ -157,7 +135,7 @@ public final class PlanNodesTest {
     }
 
     private static void right() {
-        HiddenFacts x = idle();
+        HiddenFacts x = Scenes.idle();
         x.plan(4);
         checks.due("right()", x.right(), true);
         x.edit(1, 5);
@@ -206,11 +184,11 @@ public final class PlanNodesTest {
     }
 
     private static void rightOfNothing() {
-        HiddenFacts none = idle();
+        HiddenFacts none = Scenes.idle();
         checks.dueThrow("right() without a plan", IllegalStateException.class, none::right);
         none.clause(0, 0);
         checks.dueThrow("right() without plan and start belief", IllegalStateException.class, none::right);
-        HiddenFacts x = idle();
+        HiddenFacts x = Scenes.idle();
         x.plan(4);
         x.edit(0, 3);
         checks.due("right()", x.right(), false);

@@ -7,10 +7,10 @@ final class Scenes {
     private Scenes() {}
 
     /**
-     * Some of everything, none of it full: the actions 6 and 7 are not there. The start belief is
-     * 0 and 1, the plan of three actions was carried out from 1.
+     * Start belief 0 and 1; behind sensing fact 0 (action 1) state 1 needs the actions 2 and 3,
+     * state 0 only action 5: within two the idle action 0 comes first there.
      */
-    static HiddenFacts busy() {
+    static HiddenFacts idle() {
         HiddenFacts x = new HiddenFacts();
         x.clause(0, 2);
         x.clause(0, 4);
@@ -22,13 +22,22 @@ final class Scenes {
         x.effect(2, 1, true, 0, 0);
         x.action(3, 3, 3, -1);
         x.effect(3, 2, true, 0, 0);
+        x.action(5, 1, 0, -1);
+        x.effect(5, 1, true, 0, 0);
+        x.effect(5, 2, true, 0, 0);
+        return x;
+    }
+
+    /**
+     * Some of everything, none of it full: the actions 6 and 7 are not there, action 4 (which the
+     * plan does not need) has three effects. The plan of three actions was carried out from 1.
+     */
+    static HiddenFacts busy() {
+        HiddenFacts x = idle();
         x.action(4, 9, 8, 3);
         x.effect(4, 3, false, 2, 2);
         x.effect(4, 0, true, 4, 0);
         x.effect(4, 1, true, 4, 4);
-        x.action(5, 1, 0, -1);
-        x.effect(5, 1, true, 0, 0);
-        x.effect(5, 2, true, 0, 0);
         x.plan(4);
         x.hide(1);
         x.execute();
@@ -64,13 +73,18 @@ final class Scenes {
     static HiddenFacts path(int n) {
         HiddenFacts x = new HiddenFacts();
         for (int k = 0; k < n; k++) {
-            x.action(k, 15, k, -1);
-            for (int f = 0; f < 4; f++) {
-                x.effect(k, f, (k + 1 >> f & 1) != 0, 0, 0);
-            }
+            step(x, k, -1);
         }
         x.goal(15, n);
         return x;
+    }
+
+    /** One action of a path, which senses a fact of the state that it leads to. */
+    static void step(HiddenFacts x, int k, int sense) {
+        x.action(k, 15, k, sense);
+        for (int f = 0; f < 4; f++) {
+            x.effect(k, f, (k + 1 >> f & 1) != 0, 0, 0);
+        }
     }
 
     /** Makes the start belief of a new object to be one state alone: in four clauses. */
